@@ -116,7 +116,7 @@ public final class StarRight {
     }
 
     private int starsHeldNow(int roof) {
-        lookByTown();
+        surveyTown();
         int held = 0;
         for (int s = 0; s < stars.count; s++) {
             if (sight.holderOver(stars.cellAt(s, town.now)) == roof) {
@@ -135,10 +135,10 @@ public final class StarRight {
             case 1: return stars.speed[star];
             case 2: return stars.worth[star];
             case 3:
-                lookByTown();
+                surveyTown();
                 return sight.holderOver(stars.cellAt(star, town.now));
             case 4:
-                lookByTown();
+                surveyTown();
                 return town.cloudy ? 0 : sight.payOf(stars, star, town.now);
             default: return BAD;
         }
@@ -153,8 +153,8 @@ public final class StarRight {
     }
 
     /** The town as it is, under the law that holds. */
-    private void lookByTown() {
-        sight.look(town, town.everyRoof(), law);
+    private void surveyTown() {
+        sight.survey(town, town.everyRoof(), law);
     }
 
     // ---- acts
@@ -170,7 +170,7 @@ public final class StarRight {
         if (was == height) {
             return LATE;
         }
-        town.height[roof] = height;
+        town.setHeight(roof, height);
         acts.add(Acts.BUILT, roof, was);
         return was;
     }
@@ -192,7 +192,7 @@ public final class StarRight {
         if (was == landlord) {
             return LATE;
         }
-        town.owner[roof] = landlord;
+        town.setOwner(roof, landlord);
         acts.add(Acts.SOLD, roof, was);
         return was;
     }
@@ -240,7 +240,7 @@ public final class StarRight {
 
     /** What this hour pays, put into the purses so many times; answers the sum of one time. */
     private int payPurses(int times) {
-        lookByTown();
+        surveyTown();
         int all = 0;
         for (int landlord = 0; landlord < LANDLORDS; landlord++) {
             int paid = sight.takings(town, stars, town.roofsOf(landlord), 1);
@@ -259,7 +259,7 @@ public final class StarRight {
         if (n < 0 || n > MOST_RENT_HOURS) {
             return BAD;
         }
-        lookByTown();
+        surveyTown();
         int takers = landlord == ALL_LANDLORDS ? town.everyRoof() : town.roofsOf(landlord);
         return sight.takings(town, stars, takers, n);
     }
@@ -271,7 +271,7 @@ public final class StarRight {
         if (!isSpan(n, MOST_HOURS)) {
             return BAD;
         }
-        lookByTown();
+        surveyTown();
         int needed = stars.cellsPassed(star, town.now, n);
         int best = NONE;
         for (int set = 0; set <= town.everyRoof(); set++) {
@@ -307,7 +307,7 @@ public final class StarRight {
 
     private int gainOfFires(int set, int n) {
         trial.smoking = set;
-        sight.look(trial, trial.everyRoof(), law);
+        sight.survey(trial, trial.everyRoof(), law);
         return sight.takings(trial, stars, trial.everyRoof(), n) + n * Integer.bitCount(set);
     }
 
@@ -319,7 +319,7 @@ public final class StarRight {
             return BAD;
         }
         for (int set = 0; set <= town.everyRoof() && set < ROOF_SETS; set++) {
-            sight.look(town, set, law);
+            sight.survey(town, set, law);
             rentsBySet[set] = sight.takings(town, stars, set, n);
         }
         return fraction(gainInAllOrders(roof), orders(town.roofs), upper);
@@ -363,7 +363,7 @@ public final class StarRight {
     }
 
     private int rentsByLaw(int anyLaw, int landlord, int n) {
-        sight.look(town, town.everyRoof(), anyLaw);
+        sight.survey(town, town.everyRoof(), anyLaw);
         return sight.takings(town, stars, town.roofsOf(landlord), n);
     }
 
@@ -371,7 +371,7 @@ public final class StarRight {
         if (!isSpan(n, MOST_HOURS)) {
             return BAD;
         }
-        lookByTown();
+        surveyTown();
         int holders = sight.holders(stars, town.now, n);
         for (int landlord = 0; landlord < LANDLORDS; landlord++) {
             int own = town.roofsOf(landlord);
@@ -401,7 +401,7 @@ public final class StarRight {
         int otherHeight = Contest.heightOfOther(pair);
         trial.setHeight(roof, height);
         trial.setHeight(other, otherHeight);
-        sight.look(trial, trial.everyRoof(), law);
+        sight.survey(trial, trial.everyRoof(), law);
         int gain = sight.takings(trial, stars, 1 << roof, n) - height;
         int otherGain = sight.takings(trial, stars, 1 << other, n) - otherHeight;
         contest.put(pair, gain, otherGain);
@@ -442,7 +442,7 @@ public final class StarRight {
         if (!isSpan(n, MOST_CHANCE_HOURS) || x < 0 || x > TENTHS) {
             return BAD;
         }
-        lookByTown();
+        surveyTown();
         int all = 1;
         int allClouded = 1;
         for (int i = 0; i < n; i++) {
@@ -482,7 +482,7 @@ public final class StarRight {
         if (!isSpan(m, MOST_NIGHT_HOURS)) {
             return BAD;
         }
-        lookByTown();
+        surveyTown();
         int all = 0;
         for (int i = 0; i < m; i++) {
             theSeed = theSeed * SEED_FACTOR + SEED_STEP;
@@ -668,9 +668,9 @@ public final class StarRight {
             return hasStar(star) ? walkedTo(rise[star], speed[star], hour) : 0;
         }
 
-        /** The hour is taken by ten first: the walk is the same, and cannot overflow. */
+        /** After ten hours every walk is where it began, so the hour's last digit does, and cannot overflow. */
         static int walkedTo(int from, int cellsAnHour, int hour) {
-            return Math.floorMod(from + cellsAnHour * Math.floorMod(hour, CELLS), CELLS);
+            return (from + cellsAnHour * (hour % CELLS)) % CELLS;
         }
 
         int cellsPassed(int star, int from, int n) {
@@ -838,7 +838,7 @@ public final class StarRight {
         private final int[] smoke = new int[MOST_ROOFS];
         private final int[] holder = new int[CELLS];
 
-        void look(Town town, int standing, int byLaw) {
+        void survey(Town town, int standing, int byLaw) {
             for (int r = 0; r < MOST_ROOFS; r++) {
                 boolean stands = (standing >> r & 1) != 0;
                 seen[r] = stands ? town.cellsSeen(r, standing) : 0;
@@ -888,11 +888,11 @@ public final class StarRight {
 
         /** What a star pays at an hour without clouds. */
         int payOf(Stars stars, int star, int hour) {
-            int roof = holderOver(stars.cellAt(star, hour));
-            if (!stars.hasStar(star) || roof < 0 || roof >= MOST_ROOFS) {
-                return 0;
-            }
-            return Math.max(0, stars.worth[star] - smoke[roof]);
+            return stars.hasStar(star) ? payTo(holderOver(stars.cellAt(star, hour)), stars.worth[star]) : 0;
+        }
+
+        private int payTo(int roof, int worth) {
+            return roof >= 0 && roof < MOST_ROOFS ? Math.max(0, worth - smoke[roof]) : 0;
         }
 
         /** What those of the roofs get at an hour without clouds. */
@@ -901,7 +901,7 @@ public final class StarRight {
             for (int s = 0; s < stars.count; s++) {
                 int roof = holderOver(stars.cellAt(s, hour));
                 if (roof != NONE && (takers >> roof & 1) != 0) {
-                    paid += payOf(stars, s, hour);
+                    paid += payTo(roof, stars.worth[s]);
                 }
             }
             return paid;
