@@ -211,10 +211,10 @@ public final class StarRight {
     }
 
     public int undo() {
-        if (acts.count == 0) {
+        int act = acts.takeLast();
+        if (act < 0 || act >= MOST_ACTS) {
             return LATE;
         }
-        int act = acts.takeLast();
         int roof = acts.roof[act];
         switch (acts.kind[act]) {
             case Acts.BUILT:
@@ -557,7 +557,7 @@ public final class StarRight {
 
         /** Behind its end there is no byte that fits, so an end too early is a fault at its length. */
         private int byteAt(int place) {
-            return place >= 0 && place < length ? bytes[place] : NO_BYTE;
+            return place >= 0 && place < length && place < MOST_BYTES ? bytes[place] : NO_BYTE;
         }
 
         private int digitAt(int place) {
@@ -661,7 +661,11 @@ public final class StarRight {
         }
 
         boolean hasStar(int star) {
-            return star >= 0 && star < count;
+            return star >= 0 && star < count && star < MOST_STARS;
+        }
+
+        int worthOf(int star) {
+            return hasStar(star) ? worth[star] : 0;
         }
 
         int cellAt(int star, int hour) {
@@ -728,7 +732,7 @@ public final class StarRight {
         }
 
         boolean hasRoof(int roof) {
-            return roof >= 0 && roof < roofs;
+            return roof >= 0 && roof < roofs && roof < MOST_ROOFS;
         }
 
         void setHeight(int roof, int itsHeight) {
@@ -750,8 +754,8 @@ public final class StarRight {
 
         int roofsOf(int landlord) {
             int own = 0;
-            for (int r = 0; r < roofs; r++) {
-                if (owner[r] == landlord) {
+            for (int r = 0; r < MOST_ROOFS; r++) {
+                if (hasRoof(r) && owner[r] == landlord) {
                     own |= 1 << r;
                 }
             }
@@ -760,7 +764,7 @@ public final class StarRight {
 
         int shadedRoofs() {
             int shaded = 0;
-            for (int r = 0; r < roofs; r++) {
+            for (int r = 0; r < MOST_ROOFS; r++) {
                 if (isShaded(r, everyRoof())) {
                     shaded |= 1 << r;
                 }
@@ -776,7 +780,7 @@ public final class StarRight {
             if (!hasRoof(roof)) {
                 return false;
             }
-            for (int r = 0; r < roofs; r++) {
+            for (int r = 0; r < MOST_ROOFS; r++) {
                 boolean beside = (standing >> r & 1) != 0 && distance(r, cell[roof]) == 1;
                 if (beside && height[r] > height[roof] + SHADE) {
                     return true;
@@ -802,7 +806,7 @@ public final class StarRight {
 
         int smokeAround(int roof, int standing) {
             int smokes = 0;
-            for (int r = 0; r < roofs && hasRoof(roof); r++) {
+            for (int r = 0; r < MOST_ROOFS && hasRoof(roof); r++) {
                 boolean burns = (standing & smoking & 1 << r) != 0;
                 if (burns && distance(r, cell[roof]) <= 1) {
                     smokes++;
@@ -888,7 +892,7 @@ public final class StarRight {
 
         /** What a star pays at an hour without clouds. */
         int payOf(Stars stars, int star, int hour) {
-            return stars.hasStar(star) ? payTo(holderOver(stars.cellAt(star, hour)), stars.worth[star]) : 0;
+            return payTo(holderOver(stars.cellAt(star, hour)), stars.worthOf(star));
         }
 
         private int payTo(int roof, int worth) {
@@ -901,7 +905,7 @@ public final class StarRight {
             for (int s = 0; s < stars.count; s++) {
                 int roof = holderOver(stars.cellAt(s, hour));
                 if (roof != NONE && (takers >> roof & 1) != 0) {
-                    paid += payTo(roof, stars.worth[s]);
+                    paid += payTo(roof, stars.worthOf(s));
                 }
             }
             return paid;
@@ -951,11 +955,12 @@ public final class StarRight {
             System.arraycopy(was, 1, was, 0, count);
         }
 
-        /** Its place in the row, to be read until another one comes. */
+        /** Its place in the row, to be read until another one comes; NONE if there is none. */
         int takeLast() {
-            if (count > 0) {
-                count--;
+            if (count <= 0) {
+                return NONE;
             }
+            count--;
             return count;
         }
     }
@@ -1047,7 +1052,7 @@ public final class StarRight {
         }
 
         private boolean fits(int kind) {
-            for (int i = 0; i < count; i++) {
+            for (int i = 0; i < count && i < MOST_SHONE; i++) {
                 if (isOver(kind, cell[i], hour[i]) != shone[i]) {
                     return false;
                 }
