@@ -535,6 +535,9 @@ public final class NightEdges extends Sentences {
         StarRight x = busy();
         int[] all = {3, 3, 1, 2, 1, 0b001, 0b001, 6, 2, 29};
         for (int what = 0; what <= 9; what++) due("about(" + what + ")", x.about(what), all[what]);
+        x = night("N0R4900R5510R3611R6403");
+        due("two smoke", x.about(5), 0b0110);
+        due("one is shaded", x.about(6), 0b0010);
         due("10", x.about(10), BAD);
         for (int far : FAR) due("far", x.about(far), BAD);
 

@@ -176,6 +176,7 @@ public final class RentEdges extends Sentences {
         due("one that is free, and one as good as none", night("N0R4410R9010S402").fires(1, 0), 2);
         due("the free one told first", night("N0R9010R4410S402").fires(1, 0), 1);
         due("two that are free", night("N0R9010R4410R7010S402").fires(1, 0), 5);
+        due("fewer are not better by themselves", night("N0R0000R9000R4400S409S409").fires(1, 0), 3);
 
         of("which; how much.");
         x = night("N0R4410R9010S403");
