@@ -110,13 +110,15 @@ public final class StarRight {
             case 1: return town.height[roof];
             case 2: return town.owner[roof];
             case 3: return town.cellsSeen(roof, town.everyRoof());
-            case 4: return starsHeldNow(roof);
+            case 4:
+                surveyTown();
+                return starsHeldNow(roof);
             default: return BAD;
         }
     }
 
+    /** By the last survey. */
     private int starsHeldNow(int roof) {
-        surveyTown();
         int held = 0;
         for (int s = 0; s < stars.count; s++) {
             if (sight.holderOver(stars.cellAt(s, town.now)) == roof) {
@@ -240,7 +242,7 @@ public final class StarRight {
 
     /** What this hour pays, put into the purses so many times; answers the sum of one time. */
     private int payPurses(int times) {
-        surveyTown();
+        sight.survey(town, town.everyRoof(), law);
         int all = 0;
         for (int landlord = 0; landlord < LANDLORDS; landlord++) {
             int paid = sight.takings(town, stars, town.roofsOf(landlord), 1);
