@@ -990,6 +990,9 @@ public final class StarRight {
         }
 
         private boolean isAtRest(int pair) {
+            if (pair < 0 || pair >= PAIRS) {
+                return false;
+            }
             for (int h = 0; h < HEIGHTS; h++) {
                 int changed = h * HEIGHTS + heightOfOther(pair);
                 int otherChanged = heightOfFirst(pair) * HEIGHTS + h;

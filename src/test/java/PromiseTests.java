@@ -698,7 +698,24 @@ public final class PromiseTests {
         due("shone", x.about(8), 1);
     }
 
+    /** What README.md tells of one night. */
+    private static void readme() {
+        promise = 0;
+        StarRight x = new StarRight();
+        tell(x, "N0R4402S405");
+        due("README: fault", x.fault(), NONE);
+        due("README: night", x.night(), 11);
+        due("README: holder", x.star(0, 3), 0);
+        due("README: hour", x.hour(), 5);
+        due("README: purse", x.purse(2), 5);
+        due("README: rents", x.rents(4, 12), 60);
+        due("README: undo", x.undo(), 0);
+        due("README: purse", x.purse(2), 0);
+        due("README: no landlord", x.purse(7), UNKNOWN);
+    }
+
     public static void main(String[] args) {
+        readme();
         newObject();
         writing();
         faults();
